@@ -413,18 +413,13 @@ public final class TreeClimb {
             if (text.token == Text.END) {
                 return -1;
             }
-            if (!readItem()) {
+            boolean good = text.token == Text.BRANCH ? readBranch(draft.branches)
+                : text.token == Text.BODY && readBody(draft.bodies);
+            if (!good) {
                 return text.start;
             }
         }
         return text.start;
-    }
-
-    private boolean readItem() {
-        if (text.token == Text.BRANCH) {
-            return readBranch(draft.branches);
-        }
-        return text.token == Text.BODY && readBody(draft.bodies);
     }
 
     private boolean readBranch(int b) {
@@ -439,8 +434,16 @@ public final class TreeClimb {
             draft.setFeature(b, what, text.number);
         }
         text.advance();
-        draft.setFeature(b, WET, bit(text.passes(Text.WET_WORD)));
-        draft.setFeature(b, NEST, bit(text.passes(Text.NEST_WORD)));
+        boolean wet = text.token == Text.WET_WORD;
+        if (wet) {
+            text.advance();
+        }
+        boolean nest = text.token == Text.NEST_WORD;
+        if (nest) {
+            text.advance();
+        }
+        draft.setFeature(b, WET, bit(wet));
+        draft.setFeature(b, NEST, bit(nest));
         draft.branches = b + 1;
         return text.token == Text.SEMICOLON;
     }
@@ -725,15 +728,6 @@ public final class TreeClimb {
             } else {
                 token = WRONG;
             }
-        }
-
-        /** Whether this token stands here; if so, the next one is read. */
-        boolean passes(int wanted) {
-            if (token != wanted) {
-                return false;
-            }
-            advance();
-            return true;
         }
 
         private int readNumber() {

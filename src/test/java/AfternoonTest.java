@@ -83,6 +83,13 @@ public final class AfternoonTest {
         x.afternoon(0, 0, 11);
         x.afternoon(0, 0, 11);
         CHECK.same("each is rounded: 12.33 less 10.66", x.looked(0), 1233 - 1066);
+        x.afternoon(2, 9, 1);
+        x.afternoon(2, 0, 0);
+        CHECK.same("0 high counts", x.looked(2), 100);
+        x.afternoon(2, 0, 99);
+        x.afternoon(2, 0, 0);
+        x.afternoon(2, 3, 0);
+        CHECK.same("50 hundredths less 33 whole ones", x.looked(2), 50 - 3300);
         x.afternoon(1, 1, 0);
         CHECK.same("less than without", x.looked(1), -5000);
         CHECK.same("body 3", x.looked(3), TreeClimb.NO);

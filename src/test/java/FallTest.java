@@ -66,7 +66,7 @@ public final class FallTest {
     }
 
     private static void promise22() {
-        // the falls: 15, 2 + 36, 3 + 45; the last reached by the second only
+        // 20 is reached from 10 alone
         TreeClimb x = Check.grown("branch 5 0 10 9;branch 10 0 10 9;branch 20 0 10 9;body 10 20 9;");
         fall(x, 0, 15, 0);
         fall(x, 1, 2 + 21, 1);
@@ -103,7 +103,7 @@ public final class FallTest {
         saw(x, 26, 0, 10, 2);
         TreeClimb fork = Check.grown("branch 4 0 10 9;branch 16 0 10 9;branch 16 1 10 9;branch 5 1 10 9;branch 16 7 10 9;"
             + "body 12 20 9;");
-        // only from 4 and 5 one comes to 16: 5 goes to all, 4 goes to all
+        // from 4 and from 5 one comes to each of the three of 16, who fall hard
         saw(fork, 15, 0, 9, 2);
         TreeClimb wall = Check.grown("branch 99 0 10 9;branch 4 0 10 9;body 5 20 9;");
         saw(wall, 12, 0, 0, 0);
@@ -120,6 +120,10 @@ public final class FallTest {
         TreeClimb none = Check.grown("body 9 20 9;");
         saw(none, 0, 0, 0, 0);
         saw(none, 0, 1, TreeClimb.NONE, TreeClimb.NONE);
+        TreeClimb ten = Check.grown("branch 10 0 10 9;body 9 20 9;");
+        saw(ten, 0, 0, 0, 0);
+        ten.tune(5, 1);
+        saw(ten, 0, 0, 1, 1);
         TreeClimb all = Check.grown("branch 9 0 10 9;".repeat(12) + "body 9 20 9;");
         saw(all, 27, 9, 0, 0);
         saw(all, 26, 9, TreeClimb.NONE, TreeClimb.NONE);

@@ -126,6 +126,10 @@ public final class TextTest {
         fault("branches 1 0 1 1;", 0);
         fault("branc 1 0 1 1;", 0);
         fault("Branch 1 0 1 1;", 0);
+        fault("xody 1 1 1;", 0);
+        fault("boda 1 1 1;", 0);
+        fault("bodyz 1 1 1;", 0);
+        fault("abody 1 1 1;", 0);
         fault("  bodybody 1 1 1;", 2);
         fault("wet;", 0);
         fault("nest;", 0);
@@ -187,6 +191,10 @@ public final class TextTest {
         CHECK.that("nothing changed by '" + text + "'", ahead.equals(Check.stateOf(x)));
         CHECK.that("the image stays", x.back(1) >= 0);
         CHECK.same("the text stays", x.clear(), text.length());
+        Check.write(x, "branch 1 1 1 1;body 2 2 2;");
+        CHECK.same("nothing of the fault is left", x.tree(), 2);
+        CHECK.same("one branch", x.count(0), 1);
+        CHECK.same("one body", x.count(1), 1);
     }
 
     private static void promise4Anew() {

@@ -132,9 +132,7 @@ public final class TryTest {
                     while (want < 20 && x.sway(p, b, want + 1) <= l) {
                         want++;
                     }
-                    CHECK.same("calm(" + p + ", " + b + ", " + l + ")", Check.grown("branch 10 0 10 5;branch 7 0 7 0;"
-                        + "branch 7 0 30 10;branch 7 0 30 1;branch 99 0 1 3;body 9 50 9;body 9 99 0;body 9 1 0;")
-                        .calm(p, b, l), want);
+                    CHECK.same("calm(" + p + ", " + b + ", " + l + ")", x.calm(p, b, l), want);
                 }
             }
         }

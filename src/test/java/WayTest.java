@@ -133,6 +133,10 @@ public final class WayTest {
         round.tune(5, 2);
         CHECK.same("higher than what one comes down from", round.high(0, 0), 12);
         CHECK.same("and down again", round.high(0, 1), 5);
+        TreeClimb first = Check.grown("branch 5 0 10 5;branch 2 4 10 5;branch 9 7 10 5;body 7 20 9;");
+        CHECK.same("the first and highest of two", first.high(0, 1), 9);
+        first.sawn(4);
+        CHECK.same("the first, then a lower one", first.high(0, 1), 5);
         CHECK.same("no tree", new TreeClimb().high(0, 0), -1);
     }
 
@@ -169,6 +173,8 @@ public final class WayTest {
         CHECK.same("back 3", x.help(1, 3), 0);
         CHECK.same("back 4, and on by 8", x.help(1, 4), 15);
         CHECK.same("back 0", x.help(0, 0), 0);
+        TreeClimb six = Check.grown("branch 6 0 10 9;body 5 20 9;");
+        CHECK.same("back 1", six.help(0, 1), 6);
         x.tune(5, 20);
         CHECK.same("the tune does not matter", x.help(0, 7), 7);
         CHECK.same("the tune stays", x.high(0, 0), 20);
@@ -183,7 +189,7 @@ public final class WayTest {
     private static void promise15() {
         TreeClimb x = Check.grown("branch 30 0 10 9;branch 31 0 10 9;branch 61 0 10 9;branch 62 4 30 9;branch 92 7 30 9;"
             + "body 1 20 9;body 30 20 9;");
-        CHECK.same("31 by 1", x.stuck(0, 1), 31 - 1 + 2 > 30 ? TreeClimb.NONE : 0);
+        CHECK.same("30 by 1 less 2", x.stuck(0, 0), TreeClimb.NONE);
         x.tune(2, 0);
         CHECK.same("30 by 1", x.stuck(0, 0), 29);
         CHECK.same("31 by 1, 1 to the next", x.stuck(0, 1), 29);
