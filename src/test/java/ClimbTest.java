@@ -65,6 +65,8 @@ public final class ClimbTest {
         TreeClimb none = Check.grown("branch 5 0 30 10;");
         CHECK.same("no body", none.climb(0), TreeClimb.NO);
         CHECK.same("no body", none.climb(-1), TreeClimb.NO);
+        none.tune(5, 20);
+        CHECK.same("no body, helped", none.climb(0), TreeClimb.NO);
     }
 
     private static void promise27Draws() {

@@ -159,6 +159,9 @@ public final class WayTest {
         CHECK.same("10 of 100", tiny.sure(0, 10), 1);
         CHECK.same("1 of 100", tiny.sure(0, 1), 2);
         CHECK.same("11 of 100", tiny.sure(0, 11), 0);
+        TreeClimb three = Check.grown(chain(3, 9) + "body 1 2 0;");
+        CHECK.same("729 of 1000 are 72 of 100", three.sure(0, 72), 3);
+        CHECK.same("729 of 1000 are not 73 of 100", three.sure(0, 73), 2);
         TreeClimb whole = Check.grown(chain(12, 10) + "body 1 2 0;");
         CHECK.same("all sound", whole.sure(0, 100), 12);
     }
