@@ -1,8 +1,10 @@
 import java.nio.charset.StandardCharsets;
+import java.util.function.Supplier;
 
 /** What the tests share: counting wrong answers, writing a text into an object. */
 final class Check {
     private final String name;
+    private String part = "";
     private int asked = 0;
     private int wrong = 0;
 
@@ -10,11 +12,44 @@ final class Check {
         this.name = name;
     }
 
+    /** One boundary case, told by its name; an exception in it is a wrong answer, and the others go on. */
+    void test(String told, Runnable body) {
+        part = told + ": ";
+        int before = asked;
+        try {
+            body.run();
+        } catch (RuntimeException | StackOverflowError thrown) {
+            same("throws " + thrown, 1, 0);
+        }
+        same("asks something", asked > before ? 1 : 0, 1);
+        part = "";
+    }
+
+    /** The call answers so on an object so made, and no later call tells it from one that was not asked. */
+    void refused(String call, Supplier<Caller> made, long want) {
+        refused(call, made.get(), want, made.get().show());
+    }
+
+    void refused(String call, Caller x, long want, String due) {
+        same(call, x.ask(call), want);
+        shows(call + " changes nothing", x, due);
+    }
+
+    /** The state, as later calls tell it, is due. */
+    void shows(String what, Caller x, String due) {
+        String got = x.show();
+        int same = 0;
+        while (same < Math.min(got.length(), due.length()) && got.charAt(same) == due.charAt(same)) {
+            same++;
+        }
+        that(what + ", but " + got.substring(0, same) + "| " + got.substring(same), got.equals(due));
+    }
+
     void same(String call, long got, long want) {
         asked++;
         if (got != want) {
             wrong++;
-            System.out.println(name + ": " + call + " answered " + got + ", due is " + want);
+            System.out.println(name + ": " + part + call + " answered " + got + ", due is " + want);
         }
     }
 

@@ -107,7 +107,7 @@ public final class ImageTest {
         TreeClimb x = Check.grown("branch 12 5 9 4 wet;");
         long[] each = {1, 11, 101, 1101, 10011, 100001};
         long sum = 0;
-        for (int round = 0; round < 60; round++) {
+        for (int round = 0; round < 40; round++) {
             for (int kind = 0; kind < 6; kind++) {
                 x.mark(kind, 0);
                 sum += each[kind];

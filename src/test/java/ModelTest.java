@@ -4,14 +4,16 @@ import java.util.Random;
 /** Random runs of all calls on an object and on Model; every answer has to be the same. The seeds are fixed. */
 public final class ModelTest {
     private static final Check CHECK = new Check("ModelTest");
-    private static final int RUNS = 700;
-    private static final int CALLS = 400;
+    private static final int RUNS = 3000;
+    /** What is asked last takes fewer than 200 calls more, so that no object is asked more than 512 times. */
+    private static final int CALLS = 312;
 
     private final Random random;
     private final TreeClimb x = new TreeClimb();
     private final Model m = new Model();
     private final int run;
     private int most;
+    private int calls = 0;
 
     private ModelTest(int run) {
         this.run = run;
@@ -29,12 +31,14 @@ public final class ModelTest {
         // All ways of twelve branches are too many to go one by one, of seven they are not.
         most = run % 5 == 0 ? 12 : 7;
         plant();
-        for (int call = 0; call < CALLS; call++) {
+        while (calls < CALLS) {
             ask(random.nextInt(34));
         }
+        CHECK.that("no more calls than the document allows: " + calls, calls <= 512);
     }
 
     private void due(String call, long got, long want) {
+        calls++;
         CHECK.same("run " + run + ": " + call, got, want);
     }
 
@@ -52,15 +56,15 @@ public final class ModelTest {
     }
 
     private int someBranch() {
-        return near(0, x.count(0) - 1);
+        return near(0, m.count(0) - 1);
     }
 
     private int somePlace() {
-        return near(-1, x.count(0) - 1);
+        return near(-1, m.count(0) - 1);
     }
 
     private int someBody() {
-        return near(0, x.count(1) - 1);
+        return near(0, m.count(1) - 1);
     }
 
     private void plant() {
@@ -76,7 +80,8 @@ public final class ModelTest {
             s.append(';');
         }
         for (int p = upTo(1, 3); p > 0; p--) {
-            s.append("body ").append(upTo(1, 30)).append(' ').append(upTo(1, 99)).append(' ').append(upTo(0, 9)).append(';');
+            s.append("body ").append(upTo(1, 30)).append(' ').append(upTo(1, 99)).append(' ').append(upTo(0,
+                9)).append(';');
         }
         write(s.toString());
         due("tree() of " + s, x.tree(), m.tree());
@@ -95,7 +100,8 @@ public final class ModelTest {
     }
 
     private void scribble() {
-        String[] parts = {"branch", "body", "wet", "nest", ";", "1", "0", "10", "99", " ", "  ", "00", "31", "x", "\u00e9",
+        String[] parts = {"branch", "body", "wet", "nest", ";", "1", "0", "10", "99", " ", "  ", "00", "31", "x",
+            "\u00e9",
             "body 3 3 3;", "branch 3 3 3 3", "branch 9 1 9 9 wet;", "100"};
         StringBuilder s = new StringBuilder();
         for (int i = upTo(0, 9); i > 0; i--) {
@@ -150,7 +156,7 @@ public final class ModelTest {
                 due("count(" + c + ")", x.count(c), m.count(c));
             }
         }
-        if (x.count(0) == 0 && x.count(4) == 0) plant();
+        if (m.count(0) == 0 && m.count(4) == 0) plant();
     }
 
     private void askWays(int which) {
@@ -162,7 +168,7 @@ public final class ModelTest {
             case 9 -> due("step(" + p + ", " + from + ", " + to + ")", x.step(p, from, to), m.step(p, from, to));
             case 10 -> due("holds(" + p + ", " + b + ")", x.holds(p, b), m.holds(p, b));
             case 11 -> {
-                if (x.count(0) > 7) return;
+                if (m.count(0) > 7) return;
                 for (int what = -1; what < 4; what++) {
                     String call = "best(" + p + ", " + from + ", " + to + ", " + what + ")";
                     due(call, x.best(p, from, to, what), m.best(p, from, to, what));
@@ -173,7 +179,7 @@ public final class ModelTest {
                 due("high(" + p + ", " + what + ")", x.high(p, what), m.high(p, what));
             }
             case 13 -> {
-                if (x.count(0) > 7) return;
+                if (m.count(0) > 7) return;
                 int h = near(0, 100);
                 due("sure(" + p + ", " + h + ")", x.sure(p, h), m.sure(p, h));
             }
@@ -198,7 +204,8 @@ public final class ModelTest {
         switch (which) {
             case 17 -> {
                 int n = near(0, 9);
-                due("tried(" + b + ", " + q + ", " + n + ", " + what + ")", x.tried(b, q, n, what), m.tried(b, q, n, what));
+                due("tried(" + b + ", " + q + ", " + n + ", " + what + ")", x.tried(b, q, n, what), m.tried(b, q, n,
+                    what));
             }
             case 18 -> {
                 int h = near(0, 100);

@@ -124,9 +124,9 @@ public final class TryTest {
     }
 
     private static void promise20() {
-        TreeClimb x = tree();
         for (int l : new int[] {0, 1, 5, 17, 18, 34, 35, 100, 400, 9999}) {
             for (int p = 0; p < 3; p++) {
+                TreeClimb x = tree();
                 for (int b = 0; b < 5; b++) {
                     int want = 0;
                     while (want < 20 && x.sway(p, b, want + 1) <= l) {
@@ -136,6 +136,7 @@ public final class TryTest {
                 }
             }
         }
+        TreeClimb x = tree();
         CHECK.same("l 18 of push 10", x.calm(0, 0, 18), 10);
         CHECK.same("l 17", x.calm(0, 0, 17), 9);
         CHECK.same("l -1", x.calm(0, 0, -1), -1);
