@@ -7,8 +7,8 @@ public final class ClimbEdgeTest {
     private static final int NO = TreeClimb.NO;
     private static final String THREE = "body 1 1 1;body 2 2 2;body 3 3 3;";
     /** Body 0 is held by 10 on 0 and 1, by 5 on 2, by 0 on 3, and can't step onto 4. */
-    private static final String FIVE = "branch 5 0 30 9;branch 10 0 30 9;branch 12 0 9 5;branch 13 0 9 0;branch 40 0 9 9;"
-        + "body 10 20 9;body 10 20 9;";
+    private static final String FIVE = "branch 5 0 30 9;branch 10 0 30 9;branch 12 0 9 5;branch 13 0 9 0;"
+        + "branch 40 0 9 9;body 10 20 9;body 10 20 9;";
 
     public static void main(String[] args) {
         afternoon();
@@ -127,16 +127,17 @@ public final class ClimbEdgeTest {
         due("as high", () -> tree(THREE).with("afternoon 0 0 9;afternoon 0 9 9"), "looked 0", 0);
         due("all the more", () -> tree(THREE).with("afternoon 0 0 0;afternoon 0 9 99"), "looked 0", 9900);
         due("all the less", () -> tree(THREE).with("afternoon 0 0 99;afternoon 0 9 0"), "looked 0", -9900);
-        due("less by 1 of 34", () -> tree(THREE).times(33, "afternoon 0 0 0").with("afternoon 0 0 1;afternoon 0 1 0"),
-            "looked 0", -2);
+        due("less by 1 of 34", () -> tree(THREE).times(33, "afternoon 0 0 0")
+            .with("afternoon 0 0 1;afternoon 0 1 0"), "looked 0", -2);
         // 1 of 3 is 33 hundredths, 2 of 3 are 66
         due("the mean with lookers is rounded down", () -> tree(THREE).with("afternoon 0 0 0;afternoon 0 1 1")
             .times(2, "afternoon 0 1 0"), "looked 0", 33);
         due("the mean without is rounded down", () -> tree(THREE).with("afternoon 0 1 0;afternoon 0 0 1")
             .times(2, "afternoon 0 0 0"), "looked 0", -33);
-        due("each mean is, not what is between", () -> tree(THREE)
-            .with("afternoon 0 1 1;afternoon 0 1 1;afternoon 0 1 0;"
-            + "afternoon 0 0 1;afternoon 0 0 0;afternoon 0 0 0"), "looked 0", 33);
+        due("each mean is, not what is between: 100 less 33", () -> tree(THREE).with("afternoon 0 1 1;afternoon 0 0 1")
+            .times(2, "afternoon 0 0 0"), "looked 0", 67);
+        due("each mean is, not what is between: 33 less 100", () -> tree(THREE).with("afternoon 0 0 1;afternoon 0 1 1")
+            .times(2, "afternoon 0 1 0"), "looked 0", -67);
         due("39 with, 1 without", () -> tree(THREE).times(39, "afternoon 0 5 99").with("afternoon 0 0 98"),
             "looked 0", 100);
         refused("body -1", () -> tree(THREE), "looked -1", NO);
@@ -180,8 +181,7 @@ public final class ClimbEdgeTest {
             CHECK.row("then", nowOf(x), 1, -1, 0, 0, 0, 0);
         });
         due("the lot, what is sawn, the images stay", () -> climbed().with("sawn 9;lot 5;keep 0;goes 0"), "lot 6", 5,
-            "sawn 0", 9,
-            "back 0", 15, "now 1", 1, "back 1", STATE);
+            "sawn 0", 9, "back 0", 15, "now 1", 1, "back 1", STATE);
         refused("body 2", ClimbEdgeTest::climbed, "goes 2", BAD);
         refused("body -1", ClimbEdgeTest::climbed, "goes -1", BAD);
         due("body 2, the last of three", THREE, "goes 2", 0, "now 0", 2, "goes 3", BAD);
@@ -225,8 +225,8 @@ public final class ClimbEdgeTest {
                 String given = "lot " + lotFor(draw);
                 boolean held = draw < holds;
                 due("holds " + holds + ", draw " + draw, () -> tree(text).with(given), "climb 0", held ? 0 : -1,
-                    "now 1", held ? 0 : -1, "now 2", 0, "now 3", held ? 5 : 0, "now 4", held ? 1 : 0, "now 5",
-                        held ? 0 : 1);
+                    "now 1", held ? 0 : -1, "now 2", 0, "now 3", held ? 5 : 0, "now 4", held ? 1 : 0,
+                    "now 5", held ? 0 : 1);
             }
         }
         due("wet: draw 5 below holds 6", () -> tree("branch 5 0 9 9 wet;body 10 3 0;").with("lot " + lotFor(5)),
@@ -239,20 +239,19 @@ public final class ClimbEdgeTest {
         for (int lot : new int[] {0, 1, -1, 2, Integer.MAX_VALUE, Integer.MIN_VALUE, 65535, 65536, 1 << 30, -65536}) {
             int then = (int) next(lot);
             int place = drawOf(lot) < 5 ? 0 : -1;
-            due("the lot goes on, wrapped, from " + lot, () -> tree("branch 5 0 1 5;body 10 3 9;").with("lot " + lot),
-                "climb 0", place, "lot 0", then);
+            due("the lot goes on, wrapped, from " + lot, () -> tree("branch 5 0 1 5;body 10 3 9;")
+                .with("lot " + lot), "climb 0", place, "lot 0", then);
         }
         // 1103515245 and 12345: upper 16 bits 16838, of 12345: 0, of 12345 less 1103515245 (wrapped): 48697
         due("from 1: draw 8", "branch 5 0 1 8;body 10 3 9;", "climb 0", -1, "lot 0", 1103527590);
         due("from 1: draw 8 below 9", "branch 5 0 1 9;body 10 3 9;", "climb 0", 0);
         due("from 0: draw 0", () -> tree("branch 5 0 1 1;body 10 3 9;").with("lot 0"), "climb 0", 0, "lot 0", 12345);
-        due("from -1: draw 7 of a lot below 0", () -> tree("branch 5 0 1 7;body 10 3 9;").with("lot -1"), "climb 0", -1,
-            "lot 0", -1103502900);
+        due("from -1: draw 7 of a lot below 0", () -> tree("branch 5 0 1 7;body 10 3 9;").with("lot -1"),
+            "climb 0", -1, "lot 0", -1103502900);
         due("from -1: draw 7 below 8", () -> tree("branch 5 0 1 8;body 10 3 9;").with("lot -1"), "climb 0", 0);
         due("where holds is 10 the lot goes on, too", () -> tree(FIVE).with("lot 0"), "climb 0", 0, "lot 0", 12345);
         due("where holds is 0 the lot goes on, too", () -> tree("branch 5 0 1 0;body 10 3 9;").with("lot 0"),
-            "climb 0", -1,
-            "lot 0", 12345);
+            "climb 0", -1, "lot 0", 12345);
         due("a refused step leaves the lot", () -> tree(FIVE).with("lot 7"), "climb 4", NO, "climb 9", NO, "lot 0", 7);
     }
 
@@ -260,8 +259,7 @@ public final class ClimbEdgeTest {
         for (int draw = 0; draw < 10; draw++) {
             int lot = lotFor(draw);
             due("onto the ground no draw", () -> tree(FIVE).with("climb 0;lot " + lot), "climb -1", -1, "lot 0", lot,
-                "now 4", 2,
-                "now 5", 0, "now 2", 0, "now 3", 5);
+                "now 4", 2, "now 5", 0, "now 2", 0, "now 3", 5);
         }
     }
 
@@ -273,19 +271,18 @@ public final class ClimbEdgeTest {
         // from 10: 5, blow 2, 2; 7 by 3
         due("from 10 high, by a branch", () -> tree(FIVE).with("climb 1"), "climb 3", -1, "now 2", 23);
         due("harm is of where one was, not of where one went",
-            () -> tree("branch 9 0 4 0;branch 2 4 30 9;branch 3 3 30 9;"
-            + "body 8 30 9;").with("tune 0 9;tune 1 4;climb 1"), "climb 0", -1, "now 2", 6);
+            () -> tree("branch 9 0 4 0;branch 2 4 30 9;branch 3 3 30 9;body 8 30 9;")
+            .with("tune 0 9;tune 1 4;climb 1"), "climb 0", -1, "now 2", 6);
         due("a sawn one is not struck", () -> tree(FIVE).with("climb 1;sawn 1"), "climb 3", -1, "now 2", 30);
         due("hard 9", () -> tree(FIVE).with("climb 0;tune 4 9"), "climb 3", -1, "now 2", 45);
         due("harm comes to hurt", () -> tree(FIVE).with("climb 0;climb 3;climb 0;climb 3"), "now 2", 30, "now 5", 2,
             "now 4", 2);
         due("after a fall one climbs from the ground on", () -> tree(FIVE).with("climb 0;climb 3"), "climb 0", 0,
-            "now 1", 0,
-            "climb -1", -1);
+            "now 1", 0, "climb -1", -1);
         due("a fall is no step", () -> tree(FIVE).with("climb 0;climb 3;climb 0;climb 1;climb 3"), "now 4", 3,
             "now 5", 2);
-        due("200 falls from the ground", () -> tree("branch 5 0 1 0;body 10 3 9;").times(200, "climb 0"), "now 5",
-            200, "now 4", 0, "now 2", 0, "now 3", 0);
+        due("200 falls from the ground", () -> tree("branch 5 0 1 0;body 10 3 9;").times(200, "climb 0"),
+            "now 5", 200, "now 4", 0, "now 2", 0, "now 3", 0);
         due("100 falls by 15", () -> {
             Caller x = tree(FIVE);
             for (int i = 0; i < 100; i++) {
@@ -301,8 +298,8 @@ public final class ClimbEdgeTest {
         due("a step that did not hold is none", () -> tree(FIVE).with("climb 0;climb 3"), "now 3", 5);
         due("it stays after a fall", () -> tree(FIVE).with("climb 1;climb 3"), "now 3", 10, "now 1", -1);
         due("1 high", "branch 1 0 30 9;body 3 1 1;", "climb 0", 0, "now 3", 1, "climb -1", -1, "now 3", 1);
-        due("99 high", () -> tree("branch 50 0 30 9;branch 80 0 30 9;branch 99 0 30 9;body 30 1 1;").with("tune 5 20"),
-            "climb 0", 0, "climb 1", 1, "climb 2", 2, "now 3", 99);
+        due("99 high", () -> tree("branch 50 0 30 9;branch 80 0 30 9;branch 99 0 30 9;body 30 1 1;")
+            .with("tune 5 20"), "climb 0", 0, "climb 1", 1, "climb 2", 2, "now 3", 99);
     }
 
     private static void now() {
@@ -367,8 +364,7 @@ public final class ClimbEdgeTest {
             due("keeping changes nothing", kept, "now 1", 1, "sawn 0", 12, "lot 0", 77);
         }
         due("both are of their own", () -> climbed().with("keep 0;goes 0;keep 1;goes 1;climb 1"), "back 1", 0,
-            "now 0", 0, "back 0",
-            15, "now 0", 1, "now 1", 1, "back 1", 0, "now 3", 0);
+            "now 0", 0, "back 0", 15, "now 0", 1, "now 1", 1, "back 1", 0, "now 3", 0);
         due("without a tree", "", "keep 0", 0, "lot 9", 1, "back 0", 0, "lot 9", 1);
     }
 
@@ -383,8 +379,8 @@ public final class ClimbEdgeTest {
         refused("none was kept in 1", () -> climbed().with("keep 0;goes 0"), "back 1", STATE);
         refused("a tree was read anew", () -> climbed().with("keep 0;keep 1").tree(FIVE), "back 0", STATE);
         refused("a tree was read anew", () -> climbed().with("keep 0;keep 1").tree(FIVE), "back 1", STATE);
-        due("a faulty text leaves the image", () -> climbed().with("keep 0;goes 0").types("x"), "tree", -10, "back 0",
-            15);
+        due("a faulty text leaves the image", () -> climbed().with("keep 0;goes 0").types("x"), "tree", -10,
+            "back 0", 15);
     }
 
     private static void backKeepsNothingElse() {

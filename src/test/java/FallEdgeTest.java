@@ -22,6 +22,8 @@ public final class FallEdgeTest {
         sawLeast();
         sawBounds();
         sawRange();
+        anew();
+        often();
         CHECK.end();
     }
 
@@ -202,8 +204,8 @@ public final class FallEdgeTest {
         fall("a higher one is not struck", "branch 9 0 1 0;branch 10 0 1 0;", 0, 27, 0);
         // 5, blow 2, 2; as high: 2, blow 1, 1; 4 by 3
         fall("two as high, one behind the other", "branch 8 0 1 0;branch 3 0 1 0;branch 3 1 1 0;", 0, 2 + 1 + 12, 6);
-        fall("the higher first, whatever their order", "branch 4 0 1 0;branch 20 0 1 0;branch 12 0 1 0;", 1,
-            4 + 6 + 30, 5);
+        fall("the higher first, whatever their order",
+            "branch 4 0 1 0;branch 20 0 1 0;branch 12 0 1 0;", 1, 4 + 6 + 30, 5);
         // 11 struck: 12: 1, 0, 0; and so on down to 1: 1 by 3
         StringBuilder all = new StringBuilder();
         for (int b = 0; b < 12; b++) {
@@ -308,8 +310,8 @@ public final class FallEdgeTest {
         saw("of two the least set, the other way round", down, 59, 0, 2, 1);
         saw("the one that leaves 10, the other way round", down, 59, 10, 2, 1);
         saw("the one that ends 10, the other way round", down, 29, 0, 4, 1);
-        saw("fewer ahead of a lesser set", "branch 9 0 9 9;branch 9 2 9 9;branch 8 4 9 9;branch 17 3 9 9;body 9 9 9;",
-            27, 9, 8, 1);
+        saw("fewer ahead of a lesser set",
+            "branch 9 0 9 9;branch 9 2 9 9;branch 8 4 9 9;branch 17 3 9 9;body 9 9 9;", 27, 9, 8, 1);
     }
 
     private static void sawBounds() {
@@ -337,5 +339,38 @@ public final class FallEdgeTest {
         due("body -1", text, "saw -1 9 0 0", BAD);
         due("body 1", text, "saw 1 9 0 0", BAD);
         due("no bodies", "branch 9 0 9 9;", "saw 0 9 0 0", BAD);
+    }
+
+    /** Nothing of a greater tree is left in a lesser one. */
+    private static void anew() {
+        StringBuilder twelve = new StringBuilder();
+        for (int b = 0; b < 12; b++) {
+            twelve.append("branch ").append(30 - b).append(" 0 9 5;");
+        }
+        String two = "branch 9 0 9 9;branch 5 0 9 9;body 9 9 9;";
+        Supplier<Caller> made = () -> tree(twelve + "body 30 9 9;body 30 9 9;").with("fall 0 0;high 1 0").tree(two);
+        fall("a tree read anew is fallen from by its own branches", made, 0, 2 + 21, 2);
+        fall("its last branch", made, 1, 15, 0);
+        saw("a tree read anew is sawn by its own branches", made, 22, 5, 1, 1);
+        due("what was in the greater one is not", made, "fall 2 0", BAD, "sway 0 2 1", BAD, "tried 2 1 1 0", BAD,
+            "high 0 0", 9, "high 1 0", BAD, "rubbed 0 0 0", 2, "stuck 0 0", 0);
+    }
+
+    /** The same call answers the same, as often as the document allows it. */
+    private static void often() {
+        String full = "branch 9 0 9 9;branch 9 2 9 9;branch 9 4 9 9;".repeat(4) + "body 9 9 9;";
+        String[] calls = {"saw 0 0 0 0", "best 0 -1 11 0", "rubbed 0 11 4095", "stuck 0 11", "calm 0 11 9999",
+            "help 0 20", "sure 0 50", "high 0 1", "fall 0 0", "tries 0 1 99", "tried 0 1 9 1", "step 0 0 1", "holds 0 0"};
+        for (String call : calls) {
+            CHECK.test("400 times the same", () -> {
+                Caller x = tree(full);
+                long first = x.ask(call);
+                for (int i = 1; i < 400; i++) {
+                    CHECK.same(call, x.ask(call), first);
+                }
+            });
+        }
+        due("bodies in turn", "branch 9 0 9 9;branch 18 0 9 9;body 9 9 9;body 8 9 9;", "high 0 0", 18, "high 1 0", 0,
+            "best 0 -1 1 2", 2, "best 1 -1 1 2", NONE, "best 0 -1 1 2", 2, "rubbed 1 1 0", 0, "rubbed 0 1 0", 1);
     }
 }

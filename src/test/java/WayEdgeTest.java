@@ -65,15 +65,14 @@ public final class WayEdgeTest {
         due("wet and nest", "branch 1 0 1 1 wet nest;", "branch 0 4", 1, "branch 0 5", 1);
         due("of the branch that is told so", "branch 1 0 1 1;branch 1 0 1 1 wet;branch 1 0 1 1 nest;branch 1 0 1 1;",
             "branch 0 4", 0, "branch 1 4", 1, "branch 2 4", 0, "branch 0 5", 0, "branch 1 5", 0, "branch 2 5", 1,
-                "branch 3 5", 0);
+            "branch 3 5", 0);
         due("each of its own", "branch 12 3 4 5 wet nest;body 6 7 8;", "branch 0 0", 12, "branch 0 1", 3,
-            "branch 0 2", 4,
-            "branch 0 3", 5, "branch 0 4", 1, "branch 0 5", 1, "branch 0 6", 0, "body 0 0", 6, "body 0 1", 7,
-                "body 0 2", 8);
+            "branch 0 2", 4, "branch 0 3", 5, "branch 0 4", 1, "branch 0 5", 1, "branch 0 6", 0, "body 0 0", 6,
+            "body 0 1", 7, "body 0 2", 8);
         due("what 7", "branch 1 0 1 1;", "branch 0 7", BAD, "branch 0 -1", BAD);
         due("what 3 of a body", "body 1 1 1;", "body 0 3", BAD, "body 0 -1", BAD);
-        due("one beyond the last branch, the last body", "branch 1 0 1 1;body 1 1 1;", "branch 1 0", BAD, "body 1 0",
-            BAD);
+        due("one beyond the last branch, the last body", "branch 1 0 1 1;body 1 1 1;", "branch 1 0", BAD,
+            "body 1 0", BAD);
         due("one ahead of the first branch, the first body", "branch 1 0 1 1;body 1 1 1;", "branch -1 0", BAD,
             "body -1 0", BAD);
     }
@@ -134,8 +133,7 @@ public final class WayEdgeTest {
         due("no back from a branch", () -> tree("branch 1 0 30 9;branch 12 0 30 9;" + BODY).with("tune 5 20"),
             "step 0 0 1", 0);
         due("up by 1, reach 1, blind 9", () -> tree("branch 1 0 30 9;branch 2 0 30 9;body 1 1 1;").with("tune 2 9"),
-            "step 0 0 1", 1,
-            "step 0 -1 0", 1);
+            "step 0 0 1", 1, "step 0 -1 0", 1);
         due("blind does not matter upward", () -> tree("branch 1 0 30 9;branch 11 0 30 9;" + BODY).with("tune 2 9"),
             "step 0 0 1", 1);
     }
@@ -169,8 +167,8 @@ public final class WayEdgeTest {
         due("as high, by turn", two, "step 0 0 1", 1, "step 0 1 0", 1);
         due("as high, by one more than turn", () -> tree(two).with("tune 1 1"), "step 0 0 1", 0, "step 0 1 0", 0);
         due("as high, blind more than reach", () -> tree(two).with("tune 2 9"), "step 0 0 1", 1);
-        due("as high, one side, turn 0", () -> tree("branch 50 1 30 9;branch 50 1 30 9;body 1 1 1;").with("tune 1 0"),
-            "step 0 0 1", 1);
+        due("as high, one side, turn 0", () -> tree("branch 50 1 30 9;branch 50 1 30 9;body 1 1 1;")
+            .with("tune 1 0"), "step 0 0 1", 1);
     }
 
     private static void stepSides() {
@@ -191,8 +189,7 @@ public final class WayEdgeTest {
         due("sides 7 and 0 are 1 apart", () -> tree("branch 5 7 30 9;branch 6 0 30 9;" + BODY).with("tune 1 1"),
             "step 0 0 1", 1);
         due("sides 0 and 4 are 4 apart, the most", () -> tree("branch 5 0 30 9;branch 6 4 30 9;" + BODY)
-            .with("tune 1 3"),
-            "step 0 0 1", 0, "tune 1 4", 3, "step 0 0 1", 1);
+            .with("tune 1 3"), "step 0 0 1", 0, "tune 1 4", 3, "step 0 0 1", 1);
     }
 
     private static void stepWeight() {
@@ -209,8 +206,7 @@ public final class WayEdgeTest {
         due("from branch to branch, weight 1 more", "branch 5 0 30 9;branch 6 0 3 9;body 9 10 9;", "step 0 0 1", 0,
             "step 0 1 0", 1);
         due("onto the ground with any weight", () -> tree("branch 5 0 1 9;body 9 99 9;").with("tune 0 1"),
-            "step 0 0 -1", 1,
-            "step 0 -1 0", 0);
+            "step 0 0 -1", 1, "step 0 -1 0", 0);
         due("down onto a thin one", "branch 5 0 1 9;branch 6 0 30 9;body 9 4 9;", "step 0 1 0", 0);
     }
 
@@ -305,10 +301,10 @@ public final class WayEdgeTest {
         odds("fewest by reach", ladder(6, 10).replace("body 1", "body 5"), "-1 5", 1, 1, 2);
         odds("better odds go ahead of fewer steps", "branch 4 0 1 10;branch 8 0 1 10;branch 9 4 1 10;branch 6 7 1 9;"
             + "body 5 3 9;", "-1 1", 1, 1, 2);
-        odds("a step more for better odds", "branch 4 0 1 3;branch 3 2 1 9;branch 4 1 1 9;branch 8 0 1 10;body 4 3 9;",
-            "-1 3", 9, 10, 2);
-        odds("and so do two steps more", "branch 4 0 1 3;branch 3 4 1 10;branch 7 2 1 10;branch 8 0 1 10;body 4 3 9;",
-            "-1 3", 1, 1, 3);
+        odds("a step more for better odds",
+            "branch 4 0 1 3;branch 3 2 1 9;branch 4 1 1 9;branch 8 0 1 10;body 4 3 9;", "-1 3", 9, 10, 2);
+        odds("and so do two steps more",
+            "branch 4 0 1 3;branch 3 4 1 10;branch 7 2 1 10;branch 8 0 1 10;body 4 3 9;", "-1 3", 1, 1, 3);
         odds("as good by two ways", "branch 4 0 1 5;branch 4 2 1 5;branch 8 1 1 8;body 5 3 9;", "-1 2", 2, 5, 2);
         odds("4 by 10 is more than 6 by 10 twice", sixesOr(4), "-1 3", 2, 5, 2);
         odds("3 by 10 is less than 6 by 10 twice", sixesOr(3), "-1 3", 9, 25, 3);
@@ -345,9 +341,8 @@ public final class WayEdgeTest {
         due("a sawn one", () -> tree("branch 5 0 9 9;branch 6 0 9 9;" + BODY).with("sawn 2"), "high 0 0", 5);
         due("all sawn", () -> tree("branch 5 0 9 9;branch 6 0 9 9;" + BODY).with("sawn 3"), "high 0 0", 0);
         due("back from the ground", () -> tree("branch 11 0 9 9;" + BODY).with("tune 5 1"), "high 0 0", 11);
-        due("the last of three bodies", "branch 5 0 9 9;body 1 1 1;body 4 1 1;body 5 1 1;", "high 2 0", 5, "high 1 0",
-            0,
-            "high 3 0", BAD);
+        due("the last of three bodies", "branch 5 0 9 9;body 1 1 1;body 4 1 1;body 5 1 1;", "high 2 0", 5,
+            "high 1 0", 0, "high 3 0", BAD);
     }
 
     private static void too() {
@@ -357,12 +352,10 @@ public final class WayEdgeTest {
         due("not down by a branch of odds 0", "branch 10 0 1 9;branch 8 0 1 0;body 10 3 9;", "high 0 1", 0);
         due("down from a branch of odds 1 by 10", "branch 8 0 1 1;body 10 3 9;", "high 0 1", 8);
         due("what one comes down from, but not up to", "branch 8 0 9 9;branch 12 4 9 9;branch 4 4 9 9;" + BODY,
-            "high 0 0", 12,
-            "high 0 1", 12);
+            "high 0 0", 12, "high 0 1", 12);
         due("up to, but not down from", "branch 8 0 9 9;branch 18 0 9 9;" + BODY, "high 0 0", 18, "high 0 1", 8);
         due("down from, but not up to", () -> tree("branch 30 0 9 9;branch 21 0 9 9;branch 5 0 9 9;body 18 1 1;")
-            .with("sawn 4"),
-            "high 0 1", 0);
+            .with("sawn 4"), "high 0 1", 0);
         due("what is 0, 1", "branch 8 0 9 9;" + BODY, "high 0 2", BAD, "high 0 -1", BAD);
     }
 
@@ -397,12 +390,11 @@ public final class WayEdgeTest {
         due("b 21", one, "help 0 21", BAD);
         due("no branches", BODY, "help 0 20", 0);
         due("less what was had without", "branch 7 0 9 9;branch 25 0 9 9;" + BODY, "help 0 14", 0, "help 0 15", 18);
-        due("the tune does not count", () -> tree(one).with("tune 5 20"), "help 0 20", 30, "help 0 0", 0, "high 0 0",
-            30,
-            "tune 5 0", 20);
+        due("the tune does not count", () -> tree(one).with("tune 5 20"), "help 0 20", 30, "help 0 0", 0,
+            "high 0 0", 30, "tune 5 0", 20);
         due("held by 0", "branch 30 0 1 0;body 10 3 9;", "help 0 20", 0);
-        due("it brings what lies behind, too", "branch 11 0 9 9;branch 21 0 9 9;branch 31 0 9 9;" + BODY, "help 0 1",
-            31);
+        due("it brings what lies behind, too", "branch 11 0 9 9;branch 21 0 9 9;branch 31 0 9 9;" + BODY,
+            "help 0 1", 31);
     }
 
     private static void stuck() {
@@ -415,8 +407,8 @@ public final class WayEdgeTest {
         due("99 high", "branch 99 0 9 9;body 30 9 9;", "stuck 0 0", NONE);
         due("blind 9, reach 1, 1 high", () -> tree("branch 1 0 9 9;body 1 9 9;").with("tune 2 9"), "stuck 0 0", 9);
         due("by another branch", "branch 38 0 9 9;branch 19 0 9 9;" + BODY, "stuck 0 0", 11, "stuck 0 1", 11);
-        due("not by a branch of odds 0", "branch 38 0 1 9;branch 19 0 1 0;body 10 3 9;", "stuck 0 0", 30, "stuck 0 1",
-            11);
+        due("not by a branch of odds 0", "branch 38 0 1 9;branch 19 0 1 0;body 10 3 9;", "stuck 0 0", 30,
+            "stuck 0 1", 11);
         due("not by a branch on the other side", "branch 38 0 9 9;branch 19 3 9 9;" + BODY, "stuck 0 0", 30);
         due("not by one that does not bear", "branch 38 0 9 9;branch 19 0 1 9;body 10 4 9;", "stuck 0 0", 30);
         due("by a branch above", "branch 16 0 9 9;branch 18 2 9 9;branch 9 4 9 9;body 10 9 9;", "stuck 0 0", 1);
@@ -431,8 +423,7 @@ public final class WayEdgeTest {
         due("odds do not matter", "branch 5 0 1 0;branch 6 0 1 0;body 9 3 9;", "rubbed 0 1 0", 2);
         due("weight does", "branch 5 0 1 0;branch 6 0 9 0;body 9 4 9;", "rubbed 0 0 0", 0, "rubbed 0 1 0", 1);
         due("12 branches: all of them that lie below or not", ladder(12, 1).replace("body 1", "body 30"),
-            "rubbed 0 11 0", 2048,
-            "rubbed 0 0 0", 1, "rubbed 0 12 0", BAD);
+            "rubbed 0 11 0", 2048, "rubbed 0 0 0", 1, "rubbed 0 12 0", BAD);
         due("12 branches: always the next", ladder(12, 1), "rubbed 0 11 0", 1);
         due("no step as high", "branch 5 0 9 9;branch 5 0 9 9;" + BODY, "rubbed 0 0 0", 1, "rubbed 0 1 0", 1);
         due("no step down", "branch 5 0 9 9;branch 9 0 9 9;branch 8 0 9 9;branch 18 0 9 9;" + BODY, "rubbed 0 3 0", 6);
@@ -459,12 +450,11 @@ public final class WayEdgeTest {
             "rubbed 0 3 2147483632", 8);
         due("all bits", four, "rubbed 0 3 -1", 1, "rubbed 0 3 2147483647", 1);
         due("by two as high", "branch 5 0 9 9;branch 5 1 9 9;branch 9 0 9 9;" + BODY, "rubbed 0 2 3", 0,
-            "rubbed 0 2 1", 1,
-            "rubbed 0 2 2", 1, "rubbed 0 2 0", 3);
+            "rubbed 0 2 1", 1, "rubbed 0 2 2", 1, "rubbed 0 2 0", 3);
         due("by one as high as where it ends", "branch 5 0 9 9;branch 5 1 9 9;" + BODY, "rubbed 0 0 2", 0);
         due("of 12 by the first and the last", ladder(12, 1).replace("body 1", "body 30"), "rubbed 0 11 2049", 1024);
-        due("of 12 by all", ladder(12, 1).replace("body 1", "body 30"), "rubbed 0 11 4095", 1, "rubbed 0 11 4096",
-            2048);
+        due("of 12 by all", ladder(12, 1).replace("body 1", "body 30"), "rubbed 0 11 4095", 1,
+            "rubbed 0 11 4096", 2048);
         due("by one that no way comes to", "branch 5 0 9 9;branch 6 4 1 9;branch 9 0 9 9;" + BODY, "rubbed 0 2 2", 0,
             "rubbed 0 2 0", 2);
     }
