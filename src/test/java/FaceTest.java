@@ -27,7 +27,6 @@ public final class FaceTest {
         constants();
         insides();
         source(Files.readString(Path.of("src/main/java/TreeClimb.java")));
-        example();
         CHECK.end();
     }
 
@@ -128,19 +127,5 @@ public final class FaceTest {
             }
         }
         CHECK.same("methods that do not end", head, -1);
-    }
-
-    /** The example of README.md. */
-    private static void example() {
-        TreeClimb x = new TreeClimb();
-        x.type(0x626f64792037L, 6);
-        x.type(0x20323020323bL, 6);
-        x.type(0x6272616e63682036L, 8);
-        x.type(0x2030203130203920L, 8);
-        x.type(0x3bL, 1);
-        CHECK.same("tree()", x.tree(), 2);
-        CHECK.same("step(0, -1, 0)", x.step(0, -1, 0), 1);
-        CHECK.same("best(0, -1, 0, 0)", x.best(0, -1, 0, 0), 9);
-        CHECK.same("climb(0)", x.climb(0), 0);
     }
 }
