@@ -140,6 +140,12 @@ public final class ClimbEdgeTest {
             .times(2, "afternoon 0 1 0"), "looked 0", -67);
         due("39 with, 1 without", () -> tree(THREE).times(39, "afternoon 0 5 99").with("afternoon 0 0 98"),
             "looked 0", 100);
+        Supplier<Caller> before = () -> tree(THREE).times(20, "afternoon 0 0 99").times(20, "afternoon 0 9 99");
+        due("a tree before does not count", () -> before.get().tree(THREE), "looked 0", NO);
+        due("nor if there are some of this one", () -> before.get().tree(THREE).with("afternoon 0 9 7;afternoon 0 0 5"),
+            "looked 0", 200, "dares 0 0 6 1", 2);
+        due("nor if there are many", () -> before.get().tree(THREE).times(19, "afternoon 0 9 7")
+            .with("afternoon 0 0 5"), "looked 0", 200, "dares 0 9 8 0", 0);
         refused("body -1", () -> tree(THREE), "looked -1", NO);
         refused("body 3", () -> tree(THREE), "looked 3", NO);
         due("the last body", () -> tree(THREE).with("afternoon 2 0 1;afternoon 2 1 3"), "looked 2", 200);
@@ -195,6 +201,7 @@ public final class ClimbEdgeTest {
         refused("one is on the ground", () -> tree(FIVE), "climb -1", NO);
         refused("no body", () -> tree("branch 5 0 30 9;"), "climb 0", NO);
         refused("no body, the ground", () -> tree("branch 5 0 30 9;"), "climb -1", NO);
+        refused("no body, but in the trees before", () -> tree(FIVE).tree(FIVE).tree("branch 5 0 30 9;"), "climb 0", NO);
         refused("no branch", () -> tree(THREE), "climb 0", NO);
         refused("no tree", () -> new Caller(new TreeClimb()), "climb 0", NO);
         due("the last branch", "branch 5 0 30 9;branch 5 4 30 9;body 10 20 9;", "climb 1", 1, "climb 2", NO);

@@ -30,6 +30,10 @@ public final class ModelTest {
     private void go() {
         // All ways of twelve branches are too many to go one by one, of seven they are not.
         most = run % 5 == 0 ? 12 : 7;
+        if (run % 3 == 0) {
+            fill();
+            fill();
+        }
         plant();
         while (calls < CALLS) {
             ask(random.nextInt(34));
@@ -65,6 +69,15 @@ public final class ModelTest {
 
     private int someBody() {
         return near(0, m.count(1) - 1);
+    }
+
+    /** All there may be, so that what is left of it would show in the trees that come after. */
+    private void fill() {
+        write("branch9 0 30 10nest;".repeat(12) + "body30 1 9;".repeat(3));
+        due("tree() of all there may be", x.tree(), m.tree());
+        for (int i = 0; i < 40; i++) {
+            due("afternoon(..)", x.afternoon(i % 3, i % 2, 99), m.afternoon(i % 3, i % 2, 99));
+        }
     }
 
     private void plant() {
